@@ -74,8 +74,30 @@ public final class BetterTest {
         // 1, 0, 2: at 4, 9 (5 less 3), late: 17.
         due.is("PURSE, begun later", x.best(1, NONE), 37);
         order(x, "purse, begun later", 1, 1, 2, 0);
+        x.bag(2, 0);
         Due.rule(x, "by 0 ; rings 0 ; tips late * 3 ;");
-        due.holds("a rule by which who waits gives more", x.best(1, NONE) >= x.round(4));
+        // Who waits gives more, twice what it waits: 0, 1, 2: at 5, 10, 13; 0, 2, 1: at 5, 8, 11;
+        // 1, 0, 2: 1, 6, 9; 1, 2, 0: 1, 4, 7; 2, 0, 1: 3, 6, 11; 2, 1, 0: 3, 6, 11.
+        due.is("PURSE", x.best(1, NONE), 56);
+        order(x, "purse of who waits", 1, 0, 1, 2);
+        purseOfTheLatest();
+    }
+
+    private static void purseOfTheLatest() {
+        PapersEarly x = new PapersEarly();
+        x.house(3, 90, 0);
+        x.bag(2, 107);
+        Due.rule(x, "by 999 * house ; rings 0 ; tips 99 ;");
+        due.is("STEPS, late by 107: 99 less 107, and 9", x.best(1, NONE), 1);
+        x.bag(2, 108);
+        due.is("late by 108", x.best(1, NONE), 0);
+        x.house(3, 90, 0);
+        due.is("and one in time", x.best(1, NONE), 108);
+        x.bag(2, 999);
+        x.set(0, 1, 99);
+        x.bag(3, 1);
+        due.is("first the one that is in time", x.best(1, 0), 1);
+        due.is("PURSE", x.best(1, NONE), 108);
     }
 
     /** What best() answers follows every call by which it can be another one. */
@@ -98,9 +120,11 @@ public final class BetterTest {
         x.set(0, 1, 99);
         due.is("after set(): 1, 1, 2, 1, 22, 1", x.best(0, NONE), 58);
         x.back();
+        due.is("after back()", x.best(0, NONE), soon);
         x.house(0, 0, 200);
         due.is("after house()", x.best(0, NONE), soon + 1);
         x.back();
+        due.is("after back()", x.best(0, NONE), soon);
         Due.row(x, 0, 1, 0, 0, 200);
         x.houses(0, 1, 0, 1);
         due.is("after houses()", x.best(0, NONE), soon + 1);
@@ -143,35 +167,41 @@ public final class BetterTest {
         due.is("the list stays", x.told(0, 5), 0);
         due.refuses(x, "ways(-1)", () -> x.ways(-1), BAD);
         due.refuses(x, "ways(2)", () -> x.ways(2), BAD);
+        PapersEarly end = new PapersEarly();
+        end.house(0, 0, 991);
+        end.house(0, 0, 990);
+        due.is("side 0 is first at the end of the street too", end.ways(0), 25 + 1 + 1 + 1);
         waysOfLikePlaces();
     }
 
+    /** Of houses at one place the order is seen by the bag: 2 and 3 are more than 4, 2 and 2 are not. */
     private static void waysOfLikePlaces() {
         PapersEarly x = new PapersEarly();
         x.bag(0, 4);
-        x.bag(9, 3);
-        x.house(0, 3, 400);
-        x.house(0, 3, 400);
-        x.house(0, 0, 400);
-        x.swap(0, 2);
-        // By numbers 3, 3, 1 thick: 10, 1, back and there 20, 1, and the third paper goes with the second.
-        due.is("ways(0) by numbers", x.ways(0), 32 + 1);
-        due.is("ways(1) by numbers", x.ways(1), 32 + 1);
-        x.set(0, 3, 0);
-        x.set(2, 3, 3);
-        // 1, 3 thick together, then 3.
-        due.is("ways(0)", x.ways(0), 10 + 1 + 1 + 20 + 1);
-        x.bag(9, 4);
-        due.is("ways(0), none together", x.ways(0), 10 + 1 + 20 + 1 + 20 + 1);
+        x.house(0, 1, 40);
+        x.house(0, 2, 400);
+        x.house(0, 1, 400);
+        x.swap(1, 2);
+        // By numbers 2, 3, 2 thick: 1, 1; back 1, 10, 1; back 10, 10, 1.
+        due.is("ways(0) of like places", x.ways(0), 35);
+        due.is("ways(1) of like places", x.ways(1), 35);
+        x.set(1, 3, 1);
+        x.set(2, 3, 2);
+        // 2, 2, 3: 1, 1; 9, 1; back 10, 10, 1.
+        due.is("ways(0) of like places", x.ways(0), 33);
+        due.is("ways(1) of like places", x.ways(1), 33);
         for (int h = 0; h < 3; h++) {
             x.set(h, 2, 1);
+            x.set(h, 1, h == 0 ? 40 : 4);
         }
-        x.bag(9, 3);
-        x.set(1, 3, 0);
-        x.set(0, 3, 3);
-        x.bag(6, 2);
-        // On side 1 by numbers too: 3, then 2, then 3 thick: none go together.
-        due.is("ways(0) on side 1", x.ways(0), 10 + 1 + 1 + 20 + 1 + 20 + 1);
+        // Down side 1, 2, 2, 3: 10 and 1 across, 1; 9, 1; back 1, 1, 1.
+        due.is("ways(0) on side 1", x.ways(0), 25);
+        x.set(1, 3, 2);
+        x.set(2, 3, 1);
+        // 2, 3, 2: 12; back 10, 1, 1; back 1, 1, 1.
+        due.is("ways(0) on side 1", x.ways(0), 27);
+        // Upward 3, 2, 2: 1 and 1 across, 1; back 1, 1, 1; 9, 1.
+        due.is("ways(1) on side 1", x.ways(1), 16);
     }
 
     private static void beginIsLatest() {

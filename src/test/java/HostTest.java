@@ -6,6 +6,7 @@ public final class HostTest {
     public static void main(String[] args) {
         imageAndBack();
         imageStays();
+        imageOfSeven();
         whatAnImageDoesNotKeep();
         backOfNone();
         countTells();
@@ -82,6 +83,24 @@ public final class HostTest {
         due.is("back() to none", none.back(), 0);
         due.is("count(0)", none.count(0), 0);
         due.is("house() is number 0 again", none.house(1, 10, 10), 0);
+    }
+
+    private static void imageOfSeven() {
+        PapersEarly x = new PapersEarly();
+        for (int h = 0; h < 7; h++) {
+            x.house(h % 6, 10 * (h + 1) + h % 4, 10 * (90 - h) + h % 2);
+        }
+        x.swap(0, 6);
+        due.is("image() of seven", x.image(), 7);
+        String kept = Due.seen(x);
+        for (int h = 0; h < 7; h++) {
+            for (int what = 0; what < 4; what++) {
+                x.set(h, what, 0);
+            }
+        }
+        x.arrange(0);
+        due.is("back() to seven", x.back(), 7);
+        due.holds("all seven are as in the image", Due.seen(x).equals(kept));
     }
 
     private static void whatAnImageDoesNotKeep() {

@@ -50,6 +50,9 @@ public final class RoundsTest {
         ats(x, "no minutes for crossing", 101, 104, 107, 114);
         x.bag(3, 9);
         ats(x, "pace 9", 101, 103, 106, 112);
+        x.bag(3, 1);
+        ats(x, "pace 1", 104, 110, 113, 128);
+        x.bag(3, 9);
         x.bag(1, 13);
         ats(x, "heap 13: 9 places", 101, 103, 106, 112);
         x.bag(1, 14);
@@ -177,6 +180,12 @@ public final class RoundsTest {
         for (int k = 0; k <= 4; k++) {
             due.is("shifted(" + k + ", 0)", x.shifted(k, 0), other[k]);
         }
+        x.bag(2, 900);
+        due.is("all are late", x.shifted(4, 1), 15);
+        x.bag(2, 0);
+        due.is("nobody is late", x.shifted(4, 1), 0);
+        x.bag(2, 900);
+        due.is("all are late", x.shifted(4, 2), 0);
         x.set(0, 3, 3);
         due.is("the one at place 0 gets its own", x.shifted(0, 0), 6);
         x.bag(2, 30);

@@ -11,6 +11,7 @@ public final class TextsTest {
         boundsHold();
         lateIsTold();
         faults();
+        nothingIsLeftOnTheTape();
         depths();
         roomForTexts();
         forceChanges();
@@ -120,7 +121,10 @@ public final class TextsTest {
         expression("9999 * 9999 * 43 < 0", 0);
         expression("9999 * 9999 * 43 - 4172 * 1000", 747);
         expression("1+(1+(1+(1+(1+(1)))))", 6);
-        expression("0 or 1 and 0 < 0 + 1 * (0 or 1 and 0 < 0 + 1 * (0 or 1 and 0 < 0 + 1 * 5))", 1);
+        // At each of six depths five signs wait for what stands behind them.
+        String waits = "0or 1and 0<0+1*";
+        expression((waits + "(").repeat(5) + waits + "7" + ")".repeat(5), 1);
+        expression((waits + "(").repeat(5) + waits + "0" + ")".repeat(5), 0);
     }
 
     private static void boundsHold() {
@@ -185,6 +189,10 @@ public final class TextsTest {
         fault("by 1 + 123456789012 ;", 7);
         fault("by x ;", 3);
         fault("by placeside ;", 3);
+        fault("by placez ;", 3);
+        fault("by blace ;", 3);
+        fault("by souse ;", 3);
+        fault("my 1 ;", 0);
         fault("by plac ;", 3);
         fault("by Place ;", 3);
         fault("by by ;", 3);
@@ -217,6 +225,26 @@ public final class TextsTest {
         fault("by ( 1 ) ) ;", 9);
         fault("by (1)(2) ;", 6);
         fault("by 1 ; rings house house ;", 19);
+    }
+
+    private static void nothingIsLeftOnTheTape() {
+        String[] then = {"by", "by 1", "by place", "by 1 <", "by 1 ; rings 0 ; tips 12 "};
+        for (String text : then) {
+            PapersEarly x = new PapersEarly();
+            Due.feed(x, "z".repeat(80) + "1".repeat(80));
+            due.is("text() of a full tape", x.text(), -100);
+            Due.feed(x, text);
+            due.is("text() of " + text + ", too short", x.text(), -100 - text.length());
+            Due.feed(x, "1".repeat(80));
+            x.text();
+            Due.feed(x, text);
+            due.is("text() of " + text + ", too short", x.text(), -100 - text.length());
+        }
+        PapersEarly x = new PapersEarly();
+        Due.feed(x, "by");
+        x.text();
+        Due.feed(x, "by 5" + REST);
+        due.is("text() behind a fault", x.text(), 1);
     }
 
     private static void depths() {
