@@ -234,16 +234,14 @@ public final class PapersEarly {
     }
 
     public int where(int sheet, int what) {
-        if (!isSheet(sheet) || what < 0 || what > 1) {
+        if (what < 0 || what > 1) {
             return BAD;
+        }
+        int refusal = refusalOfTelling(sheet);
+        if (refusal != 0) {
+            return refusal;
         }
         Sheet told = sheets[sheet];
-        if (told.isMissing()) {
-            return NOTHING_THERE;
-        }
-        if (told.size != houseCount) {
-            return BAD;
-        }
         goList();
         int ringing = ringing();
         int many = 0;
@@ -354,16 +352,11 @@ public final class PapersEarly {
     }
 
     public int judge(int sheet) {
-        if (!isSheet(sheet)) {
-            return BAD;
+        int refusal = refusalOfTelling(sheet);
+        if (refusal != 0) {
+            return refusal;
         }
         Sheet told = sheets[sheet];
-        if (told.isMissing()) {
-            return NOTHING_THERE;
-        }
-        if (told.size != houseCount) {
-            return BAD;
-        }
         goList();
         for (int i = 0; i < houseCount; i++) {
             if (told.item(i) != arrivals[list[i]]) {
@@ -732,6 +725,17 @@ public final class PapersEarly {
 
     private static boolean isSheet(int sheet) {
         return sheet >= 0 && sheet < SHEETS;
+    }
+
+    /** Why a sheet can't tell one number of each house; 0 if it can. */
+    private int refusalOfTelling(int sheet) {
+        if (!isSheet(sheet)) {
+            return BAD;
+        }
+        if (sheets[sheet].isMissing()) {
+            return NOTHING_THERE;
+        }
+        return sheets[sheet].size != houseCount ? BAD : 0;
     }
 
     /** A house with its door; the classes under this one are the other kinds. */
