@@ -1,4 +1,4 @@
-import java.util.function.LongSupplier;
+import java.util.function.Supplier;
 
 /** What is due: counts the calls whose answer is another one, and ends with exit code 1 if there was one. */
 final class Due {
@@ -26,14 +26,21 @@ final class Due {
         }
     }
 
-    /** A refused call answers as it must and changes nothing that can be seen. */
-    void refuses(PapersEarly x, String call, LongSupplier made, long want) {
-        String before = seen(x);
-        is(call, made.getAsLong(), want);
-        String after = seen(x);
-        if (!before.equals(after)) {
+    /** The call answers so, of an object that is made for it alone. */
+    void answers(Supplier<PapersEarly> made, long want, String call, int... args) {
+        is(Ask.words(call, args), Ask.call(made.get(), call, args), want);
+    }
+
+    /** The call is refused so, and no later call shows another thing than if it had not been made. */
+    void refuses(Supplier<PapersEarly> made, long want, String call, int... args) {
+        PapersEarly asked = made.get();
+        is(Ask.words(call, args), Ask.call(asked, call, args), want);
+        String then = Seen.all(asked);
+        String other = Seen.all(made.get());
+        if (!then.equals(other)) {
             wrong++;
-            System.out.println(name + ": " + call + " was refused and changed " + before + " to " + after);
+            System.out.println(name + ": " + Ask.words(call, args) + " was refused and changed\n  " + other
+                + "\nto\n  " + then);
         }
     }
 
@@ -41,45 +48,6 @@ final class Due {
         System.out.println(name + ": " + asked + " asked, " + wrong + " wrong");
         if (wrong != 0) {
             System.exit(1);
-        }
-    }
-
-    /** All that is seen of an object, as one text. */
-    static String seen(PapersEarly x) {
-        StringBuilder all = new StringBuilder();
-        for (int what = 0; what <= 13; what++) {
-            all.append(x.count(what)).append(' ');
-        }
-        for (int house = 0; house < x.count(0); house++) {
-            all.append('|');
-            for (int what = 0; what <= 7; what++) {
-                all.append(x.told(house, what)).append(' ');
-            }
-        }
-        all.append('|');
-        for (int what = 0; what <= 4; what++) {
-            all.append(x.round(what)).append(' ');
-        }
-        return all.toString();
-    }
-
-    static void feed(PapersEarly x, String text) {
-        for (int i = 0; i < text.length(); i++) {
-            x.feed(text.charAt(i));
-        }
-    }
-
-    /** A text is fed, read, and is the rule. */
-    static void rule(PapersEarly x, String text) {
-        feed(x, text);
-        x.force(x.text());
-    }
-
-    /** A sheet becomes a row of these numbers. */
-    static void row(PapersEarly x, int sheet, int sort, int... items) {
-        x.sheet(sheet, sort, items.length);
-        for (int i = 0; i < items.length; i++) {
-            x.cell(sheet, i, items[i]);
         }
     }
 }

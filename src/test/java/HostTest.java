@@ -14,10 +14,8 @@ public final class HostTest {
         cellBecomes();
         copyComes();
         copyOverlaps();
-        copyIsRefused();
         housesCome();
         housesRunOut();
-        housesAreRefused();
         takenForKinds();
         due.end();
     }
@@ -51,11 +49,11 @@ public final class HostTest {
         x.swap(0, 1);
         x.bag(0, 20);
         due.is("image()", x.image(), 3);
-        String kept = Due.seen(x);
+        String kept = Seen.now(x);
         changeAll(x);
         due.is("four houses now", x.count(0), 4);
         due.is("back()", x.back(), 3);
-        due.holds("all is as in the image", Due.seen(x).equals(kept));
+        due.holds("all is as in the image", Seen.now(x).equals(kept));
         due.is("the house that came since is gone", x.told(3, 0), BAD);
         due.is("a house of another kind comes", x.house(4, 10, 10), 3);
         due.is("behind the others", x.told(3, 5), 3);
@@ -65,11 +63,11 @@ public final class HostTest {
     private static void imageStays() {
         PapersEarly x = street();
         x.image();
-        String kept = Due.seen(x);
+        String kept = Seen.now(x);
         for (int i = 0; i < 3; i++) {
             changeAll(x);
             due.is("back() once more", x.back(), 3);
-            due.holds("all is as in the image once more", Due.seen(x).equals(kept));
+            due.holds("all is as in the image once more", Seen.now(x).equals(kept));
         }
         x.house(0, 0, 0);
         x.set(0, 0, 5);
@@ -92,7 +90,7 @@ public final class HostTest {
         }
         x.swap(0, 6);
         due.is("image() of seven", x.image(), 7);
-        String kept = Due.seen(x);
+        String kept = Seen.now(x);
         for (int h = 0; h < 7; h++) {
             for (int what = 0; what < 4; what++) {
                 x.set(h, what, 0);
@@ -100,19 +98,19 @@ public final class HostTest {
         }
         x.arrange(0);
         due.is("back() to seven", x.back(), 7);
-        due.holds("all seven are as in the image", Due.seen(x).equals(kept));
+        due.holds("all seven are as in the image", Seen.now(x).equals(kept));
     }
 
     private static void whatAnImageDoesNotKeep() {
         PapersEarly x = street();
-        Due.feed(x, "by 7 ; rings 0 ; tips 0 ;");
+        Streets.feed(x, "by 7 ; rings 0 ; tips 0 ;");
         x.text();
         x.force(1);
         x.image();
-        Due.feed(x, "by 9 ; rings 0 ; tips 0 ;");
+        Streets.feed(x, "by 9 ; rings 0 ; tips 0 ;");
         x.text();
         x.force(2);
-        Due.feed(x, "by");
+        Streets.feed(x, "by");
         x.sheet(0, 0, 3);
         x.back();
         due.is("the rule is kept", x.count(3), 1);
@@ -126,15 +124,15 @@ public final class HostTest {
 
     private static void backOfNone() {
         PapersEarly x = street();
-        due.refuses(x, "back()", x::back, STATE);
+        due.is("back()", x.back(), STATE);
         x.image();
         PapersEarly other = street();
-        due.refuses(other, "back() of another object", other::back, STATE);
+        due.is("back() of another object", other.back(), STATE);
     }
 
     private static void countTells() {
         PapersEarly x = street();
-        Due.feed(x, "by 7 ; rings 0 ; tips 0 ;");
+        Streets.feed(x, "by 7 ; rings 0 ; tips 0 ;");
         due.is("count(2)", x.count(2), 25);
         x.text();
         x.force(1);
@@ -150,7 +148,7 @@ public final class HostTest {
         due.is("count(3)", x.count(3), 1);
         int[] wrong = {-1, 14, 15, Integer.MAX_VALUE, Integer.MIN_VALUE};
         for (int what : wrong) {
-            due.refuses(x, "count(" + what + ")", () -> x.count(what), BAD);
+            due.is("count(" + what + ")", x.count(what), BAD);
         }
     }
 
@@ -169,7 +167,7 @@ public final class HostTest {
             due.is("missing once more, n does not matter", x.sheet(sheet, -1, 999), 1);
         }
         x.house(0, 0, 0);
-        Due.row(x, 0, 2, 77);
+        Streets.row(x, 0, 2, 77);
         x.sheet(0, 2, 1);
         due.is("all are 0 again", x.judge(0), NONE);
         x.sheet(1, 0, 5);
@@ -192,7 +190,7 @@ public final class HostTest {
         PapersEarly x = new PapersEarly();
         x.house(0, 0, 0);
         x.bag(2, v);
-        Due.row(x, 2, sort, put);
+        Streets.row(x, 2, sort, put);
         return x.judge(2) == NONE;
     }
 
@@ -237,8 +235,8 @@ public final class HostTest {
 
     private static void copyComes() {
         PapersEarly x = probe(2);
-        Due.row(x, 0, 2, 11, 12, 13, 14, 15);
-        Due.row(x, 1, 2, 21, 22, 23, 24);
+        Streets.row(x, 0, 2, 11, 12, 13, 14, 15);
+        Streets.row(x, 1, 2, 21, 22, 23, 24);
         due.is("copy(0, 1, 1, 2, 2)", x.copy(0, 1, 1, 2, 2), 2);
         has(x, "the other one", 1, 21, 22, 12, 13);
         has(x, "the one", 0, 11, 12, 13, 14, 15);
@@ -250,42 +248,17 @@ public final class HostTest {
 
     private static void copyOverlaps() {
         PapersEarly x = probe(1);
-        Due.row(x, 0, 1, 11, 12, 13, 14, 15);
+        Streets.row(x, 0, 1, 11, 12, 13, 14, 15);
         due.is("copy(0, 0, 0, 1, 4)", x.copy(0, 0, 0, 1, 4), 4);
         has(x, "upward, as they were", 0, 11, 11, 12, 13, 14);
-        Due.row(x, 0, 1, 11, 12, 13, 14, 15);
+        Streets.row(x, 0, 1, 11, 12, 13, 14, 15);
         due.is("copy(0, 1, 0, 0, 4)", x.copy(0, 1, 0, 0, 4), 4);
         has(x, "downward, as they were", 0, 12, 13, 14, 15, 15);
     }
 
-    private static void copyIsRefused() {
-        PapersEarly x = probe(2);
-        Due.row(x, 0, 2, 11, 12, 13);
-        Due.row(x, 1, 1, 21, 22, 23);
-        due.is("no such sheet", x.copy(-1, 0, 0, 0, 1), BAD);
-        due.is("no such sheet", x.copy(0, 0, 4, 0, 1), BAD);
-        due.is("no such sheet is ahead of missing", x.copy(2, 0, 4, 0, 1), BAD);
-        due.is("missing", x.copy(2, 0, 0, 0, 1), -11);
-        due.is("missing", x.copy(0, 0, 2, 0, 1), -11);
-        due.is("missing is ahead of outside", x.copy(0, 9, 2, 0, -1), -11);
-        due.is("unlike", x.copy(0, 0, 1, 0, 1), -13);
-        due.is("unlike is ahead of outside", x.copy(0, 0, 1, 0, -1), -13);
-        due.is("unlike, none", x.copy(1, 0, 0, 0, 0), -13);
-        Due.row(x, 1, 2, 21, 22);
-        int[][] outside = {
-            {-1, 0, 1}, {0, -1, 1}, {0, 0, -1}, {0, 0, 3}, {3, 0, 1}, {2, 0, 2}, {0, 2, 1}, {0, 1, 2}, {4, 0, 0},
-            {0, 3, 0}, {-1, 0, 0}, {1, 0, Integer.MAX_VALUE}, {Integer.MAX_VALUE, 0, 1}, {0, Integer.MAX_VALUE, 1},
-            {Integer.MIN_VALUE, 0, Integer.MIN_VALUE}, {Integer.MAX_VALUE, Integer.MAX_VALUE, Integer.MAX_VALUE}};
-        for (int[] w : outside) {
-            due.is("copy(0, " + w[0] + ", 1, " + w[1] + ", " + w[2] + ")", x.copy(0, w[0], 1, w[1], w[2]), -12);
-        }
-        has(x, "after refusals", 0, 11, 12, 13);
-        has(x, "after refusals", 1, 21, 22);
-    }
-
     private static void housesCome() {
         PapersEarly x = new PapersEarly();
-        Due.row(x, 0, 1, 7, 3, 92, 981, 6, 0, 0, 5, 10, 11);
+        Streets.row(x, 0, 1, 7, 3, 92, 981, 6, 0, 0, 5, 10, 11);
         due.is("houses(0, 1, 1, 3): the second is none", x.houses(0, 1, 1, 3), 2);
         due.is("count(0)", x.count(0), 2);
         int[] first = {9, 98, 1, 2, 3, 0};
@@ -300,11 +273,11 @@ public final class HostTest {
         due.is("count(0)", x.count(0), 7);
         due.is("none has room", x.houses(1, 0, 0, 7), 0);
         PapersEarly bytes = new PapersEarly();
-        Due.row(bytes, 0, 0, 0, 0, 200, 0, 0, 100);
+        Streets.row(bytes, 0, 0, 0, 0, 200, 0, 0, 100);
         due.is("200 is no such number of a byte", bytes.houses(0, 0, 0, 2), 1);
         due.is("its place", bytes.told(0, 1), 10);
         PapersEarly ints = new PapersEarly();
-        Due.row(ints, 3, 2, 0, 0, 65536, 1, 90, 990);
+        Streets.row(ints, 3, 2, 0, 0, 65536, 1, 90, 990);
         due.is("ints", ints.houses(3, 2, 0, 2), 1);
         due.is("its place", ints.told(0, 1), 99);
     }
@@ -322,28 +295,9 @@ public final class HostTest {
         due.is("from MAX on", x.houses(0, 2, Integer.MAX_VALUE, 7), -12);
         due.is("from MIN on", x.houses(0, 2, Integer.MIN_VALUE, 7), -12);
         due.is("none came by these", x.count(0), 3);
-        Due.row(x, 1, 2, 9, 9, 9, 0, 0, 0);
+        Streets.row(x, 1, 2, 9, 9, 9, 0, 0, 0);
         due.is("one is left out, one comes, one is outside", x.houses(1, 2, 0, 3), -12);
         due.is("count(0)", x.count(0), 4);
-    }
-
-    private static void housesAreRefused() {
-        PapersEarly x = new PapersEarly();
-        x.sheet(0, 1, 21);
-        due.refuses(x, "no such sheet", () -> x.houses(-1, 1, 0, 1), BAD);
-        due.refuses(x, "no such sheet", () -> x.houses(4, 1, 0, 1), BAD);
-        due.refuses(x, "no such sort", () -> x.houses(0, -1, 0, 1), BAD);
-        due.refuses(x, "no such sort", () -> x.houses(0, 3, 0, 1), BAD);
-        due.refuses(x, "n below 0", () -> x.houses(0, 1, 0, -1), BAD);
-        due.refuses(x, "n above 7", () -> x.houses(0, 1, 0, 8), BAD);
-        due.refuses(x, "n is ahead of -13", () -> x.houses(0, 2, 0, 8), BAD);
-        due.refuses(x, "n is ahead of -11", () -> x.houses(1, 2, 0, 8), BAD);
-        due.refuses(x, "another sort", () -> x.houses(0, 2, 0, 1), -13);
-        due.refuses(x, "another sort, n 0", () -> x.houses(0, 0, 0, 0), -13);
-        due.refuses(x, "another sort is ahead of outside", () -> x.houses(0, 0, -9, 1), -13);
-        due.refuses(x, "missing, of whatever sort", () -> x.houses(1, 0, 0, 1), -11);
-        due.refuses(x, "missing, n 0", () -> x.houses(1, 2, 0, 0), -11);
-        due.refuses(x, "missing is ahead of outside", () -> x.houses(1, 2, -5, 1), -11);
     }
 
     private static void takenForKinds() {
@@ -360,11 +314,11 @@ public final class HostTest {
         }
         x.set(4, 0, 1);
         due.is("its number now", x.taken(4, 2), 1);
-        due.refuses(x, "taken(0, -1)", () -> x.taken(0, -1), BAD);
-        due.refuses(x, "taken(0, 6)", () -> x.taken(0, 6), BAD);
-        due.refuses(x, "k is ahead of the house", () -> x.taken(9, 6), BAD);
-        due.refuses(x, "taken(6, 0)", () -> x.taken(6, 0), -11);
-        due.refuses(x, "taken(-1, 5)", () -> x.taken(-1, 5), -11);
-        due.refuses(x, "taken(MAX, 0)", () -> x.taken(Integer.MAX_VALUE, 0), -11);
+        due.is("taken(0, -1)", x.taken(0, -1), BAD);
+        due.is("taken(0, 6)", x.taken(0, 6), BAD);
+        due.is("k is ahead of the house", x.taken(9, 6), BAD);
+        due.is("taken(6, 0)", x.taken(6, 0), -11);
+        due.is("taken(-1, 5)", x.taken(-1, 5), -11);
+        due.is("taken(MAX, 0)", x.taken(Integer.MAX_VALUE, 0), -11);
     }
 }

@@ -1,13 +1,15 @@
 import java.lang.reflect.Method;
+import java.lang.reflect.Modifier;
 import java.util.ArrayList;
 import java.util.Arrays;
-import java.util.Comparator;
+import java.util.HashMap;
 import java.util.List;
+import java.util.Map;
 import java.util.Random;
 
 /** All promises: drawn runs of calls, each answered by the class and by the plain Model alike. */
 public final class RandomRunsTest {
-    private static final int RUNS = 400, CALLS = 300;
+    private static final int RUNS = 400, CALLS = 512;
     private static final String[] ALL = {
         "house", "set", "bag", "told", "swap", "feed", "text", "force", "at", "round", "shifted", "where", "best",
         "arrange", "ways", "begin", "heap", "split", "drop", "away", "judge", "thrownBy", "chance", "image", "back",
@@ -21,6 +23,7 @@ public final class RandomRunsTest {
     private final Model model = new Model();
     private final List<String> made = new ArrayList<>();
     private final boolean wild;
+    private int calls = 0;
 
     private RandomRunsTest(long seed) {
         random = new Random(seed);
@@ -39,51 +42,51 @@ public final class RandomRunsTest {
         due.end();
     }
 
+    /** All the calls that an object stands for. */
     private boolean run() throws Exception {
-        int begin = random.nextInt(9);
-        for (int i = 0; i < begin; i++) {
-            if (!alike("house", 0)) return false;
+        boolean alike = true;
+        for (int begin = random.nextInt(9); begin > 0 && alike; begin--) {
+            alike = alike("house");
         }
-        for (int i = 0; i < CALLS; i++) {
+        while (calls < CALLS && alike) {
             String name = ALL[random.nextInt(ALL.length)];
-            boolean same = name.equals("feed") && random.nextInt(3) > 0 ? feedsText() : alike(name, i);
-            if (!same) return false;
+            if (name.equals("house") && random.nextInt(3) > 0) continue;
+            alike = name.equals("feed") && random.nextInt(3) == 0 ? feedsText() : drawsRow(name) && alike(name);
         }
-        return true;
+        return alike;
     }
 
-    private boolean alike(String name, int calls) throws Exception {
-        if (name.equals("house") && calls > 0 && random.nextInt(3) > 0) return true;
-        Method asked = method(PapersEarly.class, name);
-        Object[] args = drawn(name);
-        Object got = asked.invoke(real, args);
-        Object want = method(Model.class, name).invoke(model, args);
-        made.add(name + Arrays.toString(args) + " = " + got);
-        if (got.equals(want)) return true;
-        System.out.println(String.join("\n", made.subList(Math.max(0, made.size() - 60), made.size())));
+    private boolean alike(String name) throws Exception {
+        return same(name, drawn(name));
+    }
+
+    /** Whether both answer so; true without a call, when the object has had all that it stands for. */
+    private boolean same(String name, int... args) throws Exception {
+        if (calls >= CALLS) return true;
+        calls++;
+        long got = Ask.call(real, name, args);
+        Object[] all = Arrays.stream(args).boxed().toArray();
+        long want = ((Number) MODEL.get(name).invoke(model, all)).longValue();
+        made.add(Ask.words(name, args) + " = " + got);
+        if (got == want) return true;
+        System.out.println(String.join("\n", made));
         System.out.println("due is " + want);
         return false;
     }
 
-    private static final List<Method> METHODS = new ArrayList<>();
+    private static final Map<String, Method> MODEL = new HashMap<>();
 
-    private static Method method(Class<?> of, String name) {
-        for (Method m : METHODS) {
-            if (m.getDeclaringClass() == of && m.getName().equals(name)) return m;
+    static {
+        for (Method m : Model.class.getDeclaredMethods()) {
+            if (Modifier.isPublic(m.getModifiers())) MODEL.put(m.getName(), m);
         }
-        Method found = Arrays.stream(of.getDeclaredMethods())
-            .filter(m -> m.getName().equals(name) && java.lang.reflect.Modifier.isPublic(m.getModifiers()))
-            .min(Comparator.comparing(Method::getName)).get();
-        METHODS.add(found);
-        return found;
     }
 
-    private Object[] drawn(String name) {
-        int[] plain = plain(name);
-        Object[] args = new Object[plain.length];
-        for (int i = 0; i < plain.length; i++) {
+    private int[] drawn(String name) {
+        int[] args = plain(name);
+        for (int i = 0; i < args.length; i++) {
             boolean edge = random.nextInt(wild ? 4 : 60) == 0;
-            args[i] = edge ? EDGES[random.nextInt(EDGES.length)] : plain[i];
+            args[i] = edge ? EDGES[random.nextInt(EDGES.length)] : args[i];
         }
         return args;
     }
@@ -94,11 +97,11 @@ public final class RandomRunsTest {
 
     /** One of the houses that there are, mostly. */
     private int aHouse() {
-        return below(Math.max(1, real.count(0) + below(2)));
+        return below(Math.max(1, model.count(0) + below(2)));
     }
 
     private int aMinute() {
-        return real.count(0) > 0 && below(4) > 0 ? real.at(below(real.count(0)), 0) : below(1200);
+        return model.count(0) > 0 && below(4) > 0 ? model.at(below(model.count(0)), 0) : below(1200);
     }
 
     private int[] plain(String name) {
@@ -109,20 +112,20 @@ public final class RandomRunsTest {
             case "told" -> new int[] {aHouse(), below(9)};
             case "swap" -> new int[] {aHouse(), aHouse()};
             case "feed" -> new int[] {below(256)};
-            case "force" -> new int[] {below(real.count(1) + 1)};
+            case "force" -> new int[] {below(model.count(1) + 1)};
             case "at" -> new int[] {aHouse(), below(4)};
             case "round" -> new int[] {below(6)};
             case "shifted" -> new int[] {aHouse() + below(2), below(4)};
-            case "where" -> new int[] {aRung(), below(2)};
+            case "where" -> new int[] {aSheet(), below(2)};
             case "best" -> new int[] {below(2), below(8) - 1};
             case "arrange", "ways", "heap", "split" -> new int[] {below(2)};
             case "drop" -> new int[] {aHouse()};
-            case "away" -> new int[] {below((1 << real.count(0)) + 1), below(2)};
-            case "judge" -> new int[] {aJudged()};
+            case "away" -> new int[] {below((1 << model.count(0)) + 1), below(2)};
+            case "judge" -> new int[] {aSheet()};
             case "thrownBy" -> new int[] {random.nextInt(), below(12)};
             case "chance" -> new int[] {random.nextInt(), below(22), 7 + below(4), below(2)};
             case "count" -> new int[] {below(15)};
-            case "sheet" -> new int[] {below(4), below(4) - 1, below(3) > 0 ? real.count(0) : below(42)};
+            case "sheet" -> new int[] {below(4), below(4) - 1, below(3) > 0 ? model.count(0) : below(42)};
             case "cell" -> new int[] {below(4), below(8), below(3) == 0 ? aMinute() : below(3)};
             case "copy" -> new int[] {below(4), below(5), below(4), below(5), below(6)};
             case "houses" -> new int[] {below(4), below(3), below(10), below(8)};
@@ -146,41 +149,32 @@ public final class RandomRunsTest {
         return new int[] {what, what == 2 && below(8) == 0 ? below(1001) : v};
     }
 
-    /** A sheet that tells, mostly, who rings up when it shifted somewhere. */
-    private int aRung() {
-        int sheet = below(4);
-        if (below(3) > 0) {
-            int bits = real.shifted(below(real.count(0) + 1), 1);
-            remake(sheet, below(3));
-            for (int h = 0; h < real.count(0); h++) {
-                fill(sheet, h, (bits >> h & 1) + (below(40) == 0 ? 2 : 0));
+    /** Ahead of where() and judge() a sheet is, mostly, filled so that it tells of the houses that there are. */
+    private boolean drawsRow(String name) throws Exception {
+        boolean rung = name.equals("where");
+        if (!rung && !name.equals("judge") || below(3) == 0) return true;
+        int many = model.count(0);
+        int[] items = new int[many];
+        int bits = model.shifted(below(many + 1), 1);
+        for (int h = 0; h < many; h++) {
+            if (rung) {
+                items[h] = (bits >> h & 1) + (below(40) == 0 ? 2 : 0);
+            } else {
+                items[model.told(h, 5)] = model.at(h, 0) + (below(12) == 0 ? 1 : 0);
             }
         }
-        return sheet;
-    }
-
-    /** A sheet that tells, mostly, when one is at the houses. */
-    private int aJudged() {
-        int sheet = below(4);
-        if (below(3) > 0) {
-            remake(sheet, below(3));
-            for (int h = 0; h < real.count(0); h++) {
-                fill(sheet, real.told(h, 5), real.at(h, 0) + (below(12) == 0 ? 1 : 0));
-            }
+        filled = below(4);
+        boolean same = same("sheet", filled, below(3), many);
+        for (int i = 0; i < many && same; i++) {
+            same = same("cell", filled, i, items[i]);
         }
-        return sheet;
+        return same;
     }
 
-    private void remake(int sheet, int sort) {
-        made.add("sheet " + sheet + " of sort " + sort);
-        real.sheet(sheet, sort, real.count(0));
-        model.sheet(sheet, sort, real.count(0));
-    }
+    private int filled = 0;
 
-    private void fill(int sheet, int i, int v) {
-        made.add("cell " + sheet + ", " + i + ", " + v);
-        real.cell(sheet, i, v);
-        model.cell(sheet, i, v);
+    private int aSheet() {
+        return below(3) > 0 ? filled : below(4);
     }
 
     /** A drawn text is fed, now and then with a byte that is another one, and read. */
@@ -194,12 +188,9 @@ public final class RandomRunsTest {
         if (below(4) == 0) text.setLength(below(text.length()));
         if (below(8) == 0) text.append(blank()).append(below(2) == 0 ? ";" : " ");
         for (int i = 0; i < text.length(); i++) {
-            int got = real.feed(text.charAt(i));
-            if (got != model.feed(text.charAt(i))) return false;
+            if (!same("feed", text.charAt(i))) return false;
         }
-        made.add("fed: " + text);
-        if (!alike("text", 1)) return false;
-        return below(2) == 0 || alike("force", 1);
+        return alike("text") && (below(2) == 0 || same("force", model.count(1) - 1));
     }
 
     private String blank() {

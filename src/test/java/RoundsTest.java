@@ -12,8 +12,6 @@ public final class RoundsTest {
         lateAndPurse();
         shiftedSorts();
         whereItShifted();
-        whereIsRefused();
-        refusals();
         due.end();
     }
 
@@ -102,7 +100,7 @@ public final class RoundsTest {
         for (int kind = 0; kind < 6; kind++) {
             x.house(kind, 30, 0);
         }
-        Due.rule(x, "by 50 ; rings 0 ; tips 21 ;");
+        Streets.rule(x, "by 50 ; rings 0 ; tips 21 ;");
         // Nobody is late: DOOR 21, GATE 21, DOG 10, STEPS 24, BELL 12, SLOT 21 less rain.
         tips(x, "in time", 21, 21, 10, 24, 12, 21);
         x.bag(5, 4);
@@ -127,7 +125,7 @@ public final class RoundsTest {
         PapersEarly x = new PapersEarly();
         x.house(3, 90, 0);
         x.house(5, 90, 0);
-        Due.rule(x, "by 10 ; rings 0 ; tips 3 ;");
+        Streets.rule(x, "by 10 ; rings 0 ; tips 3 ;");
         x.bag(2, 18);
         // STEPS: 3 less 8 is below 0, and 9 more of it 4: only the end is brought up to 0.
         due.is("STEPS", x.at(0, 2), 4);
@@ -160,7 +158,7 @@ public final class RoundsTest {
         x.bag(2, 29);
         due.is("5 < 5 does not hold", x.round(3), 0);
         due.is("PURSE: 20, 20, 10, 15 less 5 and 1", x.round(4), 61);
-        Due.rule(x, "by 999 ; rings house = 2 ; tips 9 ;");
+        Streets.rule(x, "by 999 ; rings house = 2 ; tips 9 ;");
         due.is("who isn't late may ring up too", x.round(3), 4);
     }
 
@@ -199,64 +197,30 @@ public final class RoundsTest {
 
     private static void whereItShifted() {
         PapersEarly x = street();
-        Due.row(x, 0, 0, 0, 1, 0, 0);
+        Streets.row(x, 0, 0, 0, 1, 0, 0);
         due.is("where(0, 0): shifted at 0 or 1", x.where(0, 0), 2);
         due.is("where(0, 1)", x.where(0, 1), 0);
-        Due.row(x, 1, 1, 0, 0, 0, 0);
+        Streets.row(x, 1, 1, 0, 0, 0, 0);
         due.is("where(1, 0): at 2, 3, 4", x.where(1, 0), 3);
         due.is("where(1, 1)", x.where(1, 1), 2);
-        Due.row(x, 3, 2, 1, 0, 0, 0);
+        Streets.row(x, 3, 2, 1, 0, 0, 0);
         due.is("where(3, 0): nowhere", x.where(3, 0), 0);
         due.is("where(3, 1)", x.where(3, 1), NONE);
-        Due.row(x, 3, 2, 0, 2, 0, 0);
+        Streets.row(x, 3, 2, 0, 2, 0, 0);
         due.is("2 tells neither that one rings up nor that one doesn't", x.where(3, 0), 0);
         x.swap(0, 1);
         // THE LIST 1, 0, 2, 3: the sheet tells of houses by their numbers, sorts are 3, 0, 3, 3.
-        Due.row(x, 2, 0, 1, 0, 1, 0);
+        Streets.row(x, 2, 0, 1, 0, 1, 0);
         due.is("where(2, 0)", x.where(2, 0), 2);
-        Due.row(x, 2, 0, 0, 0, 1, 0);
+        Streets.row(x, 2, 0, 0, 0, 1, 0);
         due.is("where(2, 1)", x.where(2, 1), 2);
         x.bag(2, 900);
-        Due.row(x, 2, 0, 1, 1, 1, 1);
+        Streets.row(x, 2, 0, 1, 1, 1, 1);
         due.is("all ring up wherever it shifted", x.where(2, 0), 5);
         due.is("where(2, 1)", x.where(2, 1), 0);
         PapersEarly none = new PapersEarly();
         none.sheet(0, 2, 0);
         due.is("no houses: place 0", none.where(0, 0), 1);
         due.is("no houses: place 0", none.where(0, 1), 0);
-    }
-
-    private static void whereIsRefused() {
-        PapersEarly x = street();
-        Due.row(x, 0, 0, 0, 1, 0);
-        due.refuses(x, "where(-1, 0)", () -> x.where(-1, 0), BAD);
-        due.refuses(x, "where(4, 0)", () -> x.where(4, 0), BAD);
-        due.refuses(x, "where(1, 2): what is ahead of -11", () -> x.where(1, 2), BAD);
-        due.refuses(x, "where(1, -1)", () -> x.where(1, -1), BAD);
-        due.refuses(x, "where(1, 0): missing", () -> x.where(1, 0), -11);
-        due.refuses(x, "where(0, 0): too short", () -> x.where(0, 0), BAD);
-        Due.row(x, 0, 0, 0, 1, 0, 0, 0);
-        due.refuses(x, "where(0, 1): too long", () -> x.where(0, 1), BAD);
-        x.sheet(0, -1, 0);
-        due.refuses(x, "where(0, 0): missing again", () -> x.where(0, 0), -11);
-    }
-
-    private static void refusals() {
-        PapersEarly x = street();
-        int[][] at = {{-1, 0}, {4, 0}, {7, 0}, {0, -1}, {0, 3}, {Integer.MAX_VALUE, 0}};
-        for (int[] w : at) {
-            due.refuses(x, "at(" + w[0] + ", " + w[1] + ")", () -> x.at(w[0], w[1]), BAD);
-        }
-        due.refuses(x, "round(-1)", () -> x.round(-1), BAD);
-        due.refuses(x, "round(5)", () -> x.round(5), BAD);
-        int[][] shifted = {{-1, 0}, {5, 0}, {0, -1}, {0, 3}, {Integer.MIN_VALUE, 0}};
-        for (int[] w : shifted) {
-            due.refuses(x, "shifted(" + w[0] + ", " + w[1] + ")", () -> x.shifted(w[0], w[1]), BAD);
-        }
-        PapersEarly none = new PapersEarly();
-        none.bag(2, 77);
-        due.is("ENDS of none is BEGIN", none.round(0), 77);
-        due.is("shifted(0, 1) of none", none.shifted(0, 1), 0);
-        due.refuses(none, "at(0, 0) of none", () -> none.at(0, 0), BAD);
     }
 }

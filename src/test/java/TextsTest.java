@@ -20,15 +20,15 @@ public final class TextsTest {
 
     private static void feedCounts() {
         PapersEarly x = new PapersEarly();
-        due.refuses(x, "feed(-1)", () -> x.feed(-1), BAD);
-        due.refuses(x, "feed(256)", () -> x.feed(256), BAD);
+        due.is("feed(-1)", x.feed(-1), BAD);
+        due.is("feed(256)", x.feed(256), BAD);
         due.is("feed(0)", x.feed(0), 1);
         due.is("feed(255)", x.feed(255), 2);
         for (int i = 3; i <= 160; i++) {
             due.is("feed(32)", x.feed(32), i);
         }
-        due.refuses(x, "a byte more than 160", () -> x.feed(32), FULL);
-        due.refuses(x, "BAD is ahead of FULL", () -> x.feed(256), BAD);
+        due.is("a byte more than 160", x.feed(32), FULL);
+        due.is("BAD is ahead of FULL", x.feed(256), BAD);
         due.is("text(): byte 0 begins nothing", x.text(), -100);
         due.is("count(2)", x.count(2), 0);
         due.is("feed(98)", x.feed(98), 1);
@@ -43,14 +43,14 @@ public final class TextsTest {
             "by place + side - sort * late ; rings rain = house or 1 and 2 ; tips 9999 ;"};
         PapersEarly x = new PapersEarly();
         for (int i = 0; i < texts.length; i++) {
-            Due.feed(x, texts[i]);
+            Streets.feed(x, texts[i]);
             due.is("text() of " + texts[i], x.text(), i + 1);
             due.is("count(1)", x.count(1), i + 2);
             due.is("count(2)", x.count(2), 0);
             due.is("count(3): a text that is read is not yet the rule", x.count(3), 0);
         }
         PapersEarly whole = new PapersEarly();
-        Due.feed(whole, "by 1" + "+1".repeat(68) + REST);
+        Streets.feed(whole, "by 1" + "+1".repeat(68) + REST);
         due.is("bytes of a whole tape", whole.count(2), 160);
         due.is("text() of a whole tape", whole.text(), 1);
     }
@@ -61,7 +61,7 @@ public final class TextsTest {
         x.house(0, 2, 990);
         x.house(0, 2, 71);
         x.bag(5, 3);
-        Due.feed(x, "by " + e + REST);
+        Streets.feed(x, "by " + e + REST);
         due.is("text() of " + e, x.text(), 1);
         x.force(1);
         due.is(e, x.told(1, 7), want);
@@ -137,11 +137,11 @@ public final class TextsTest {
         expression("9999 * 9999 * 30", 0);
         PapersEarly x = new PapersEarly();
         x.house(0, 0, 0);
-        Due.rule(x, "by 999 ; rings 0 ; tips 100 ;");
+        Streets.rule(x, "by 999 ; rings 0 ; tips 100 ;");
         due.is("tips above the bound", x.at(0, 2), 99);
-        Due.rule(x, "by 999 ; rings 0 ; tips 0 - 1 ;");
+        Streets.rule(x, "by 999 ; rings 0 ; tips 0 - 1 ;");
         due.is("tips below the bound", x.at(0, 2), 0);
-        Due.rule(x, "by 999 ; rings 0 - 1 ; tips 9 ;");
+        Streets.rule(x, "by 999 ; rings 0 - 1 ; tips 9 ;");
         due.is("rings is anything but 0", x.round(3), 1);
     }
 
@@ -149,7 +149,7 @@ public final class TextsTest {
         PapersEarly x = new PapersEarly();
         x.house(0, 0, 0);
         x.bag(2, 50);
-        Due.rule(x, "by 40 + late * 100 ; rings late = 10 ; tips 3 * late ;");
+        Streets.rule(x, "by 40 + late * 100 ; rings late = 10 ; tips 3 * late ;");
         due.is("of by late is 0", x.told(0, 7), 40);
         due.is("late", x.at(0, 1), 10);
         due.is("of rings it is told", x.round(3), 1);
@@ -159,7 +159,7 @@ public final class TextsTest {
     private static void fault(String text, int place) {
         PapersEarly x = new PapersEarly();
         x.house(0, 0, 0);
-        Due.feed(x, text);
+        Streets.feed(x, text);
         due.is("text() of " + text, x.text(), -100 - place);
         due.is("the tape is empty after " + text, x.count(2), 0);
         due.is("no text came by " + text, x.count(1), 1);
@@ -231,19 +231,19 @@ public final class TextsTest {
         String[] then = {"by", "by 1", "by place", "by 1 <", "by 1 ; rings 0 ; tips 12 "};
         for (String text : then) {
             PapersEarly x = new PapersEarly();
-            Due.feed(x, "z".repeat(80) + "1".repeat(80));
+            Streets.feed(x, "z".repeat(80) + "1".repeat(80));
             due.is("text() of a full tape", x.text(), -100);
-            Due.feed(x, text);
+            Streets.feed(x, text);
             due.is("text() of " + text + ", too short", x.text(), -100 - text.length());
-            Due.feed(x, "1".repeat(80));
+            Streets.feed(x, "1".repeat(80));
             x.text();
-            Due.feed(x, text);
+            Streets.feed(x, text);
             due.is("text() of " + text + ", too short", x.text(), -100 - text.length());
         }
         PapersEarly x = new PapersEarly();
-        Due.feed(x, "by");
+        Streets.feed(x, "by");
         x.text();
-        Due.feed(x, "by 5" + REST);
+        Streets.feed(x, "by 5" + REST);
         due.is("text() behind a fault", x.text(), 1);
     }
 
@@ -267,19 +267,19 @@ public final class TextsTest {
 
     private static void stands(String by) {
         PapersEarly x = new PapersEarly();
-        Due.feed(x, by + "rings 0;tips 0;");
+        Streets.feed(x, by + "rings 0;tips 0;");
         due.is("text() of " + by, x.text(), 1);
     }
 
     private static void roomForTexts() {
         PapersEarly x = new PapersEarly();
         for (int i = 1; i <= 5; i++) {
-            Due.feed(x, "by " + i + REST);
+            Streets.feed(x, "by " + i + REST);
             due.is("text()", x.text(), i);
         }
-        due.refuses(x, "text() with no room, of an empty tape", x::text, FULL);
-        Due.feed(x, "by ?");
-        due.refuses(x, "FULL is ahead of a FAULT", x::text, FULL);
+        due.is("text() with no room, of an empty tape", x.text(), FULL);
+        Streets.feed(x, "by ?");
+        due.is("FULL is ahead of a FAULT", x.text(), FULL);
         due.is("the tape stays", x.count(2), 4);
         x.house(0, 0, 0);
         for (int i = 5; i >= 1; i--) {
@@ -291,16 +291,16 @@ public final class TextsTest {
     private static void forceChanges() {
         PapersEarly x = new PapersEarly();
         x.house(0, 0, 0);
-        due.refuses(x, "force(1): there is none", () -> x.force(1), BAD);
-        due.refuses(x, "force(-1)", () -> x.force(-1), BAD);
+        due.is("force(1): there is none", x.force(1), BAD);
+        due.is("force(-1)", x.force(-1), BAD);
         due.is("force(0)", x.force(0), 0);
-        Due.feed(x, "by 7" + REST);
+        Streets.feed(x, "by 7" + REST);
         x.text();
         due.is("force(1)", x.force(1), 0);
         due.is("count(3)", x.count(3), 1);
         due.is("told(0, 7)", x.told(0, 7), 7);
-        due.refuses(x, "force(2)", () -> x.force(2), BAD);
-        due.refuses(x, "force(MAX)", () -> x.force(Integer.MAX_VALUE), BAD);
+        due.is("force(2)", x.force(2), BAD);
+        due.is("force(MAX)", x.force(Integer.MAX_VALUE), BAD);
         due.is("force(0)", x.force(0), 1);
         due.is("told(0, 7)", x.told(0, 7), 30);
     }
