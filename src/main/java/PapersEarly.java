@@ -134,7 +134,7 @@ public final class PapersEarly {
             case 6:
                 return door.takes(thickOf(terms, door.sort), terms[RAIN]);
             case 7:
-                return wantedBy(door);
+                return rules[ruleNow].wantedBy(door, terms[RAIN]);
             default:
                 return BAD;
         }
@@ -300,7 +300,7 @@ public final class PapersEarly {
         int latest = LAST_MINUTE;
         for (int h = 0; h < houseCount; h++) {
             int after = arrivals[h] - terms[BEGIN];
-            latest = Math.min(latest, wantedBy(doors[h]) - after);
+            latest = Math.min(latest, rules[ruleNow].wantedBy(doors[h], terms[RAIN]) - after);
         }
         return latest < 0 ? NONE : latest;
     }
@@ -639,12 +639,8 @@ public final class PapersEarly {
         return what == 0 && door.side == 1 ? 2 * (LAST_PLACE + 1) - door.place : door.place;
     }
 
-    private int wantedBy(Door door) {
-        return rules[ruleNow].wantedBy(door, terms[RAIN]);
-    }
-
     private int lateness(Door door) {
-        return Math.max(0, arrivals[door.index] - wantedBy(door));
+        return Math.max(0, arrivals[door.index] - rules[ruleNow].wantedBy(door, terms[RAIN]));
     }
 
     private int giftOf(Door door) {

@@ -383,6 +383,9 @@ public final class HostEdgesTest {
         due.is("seven, five of which have room", x.houses(0, 1, 0, 7), 5);
         due.is("seven, none of which has room", x.houses(0, 1, 0, 7), 0);
         due.is("none of none", x.houses(0, 1, 0, 0), 0);
+        due.is("none has room, and the last is outside", x.houses(0, 1, 20, 7), -12);
+        due.is("none has room, the last fits just so", x.houses(0, 1, 19, 7), 0);
+        due.is("count(0)", x.count(0), 7);
     }
 
     private static void p31lastPlaceThatFits() {
