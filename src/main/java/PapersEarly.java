@@ -1011,13 +1011,17 @@ public final class PapersEarly {
             }
             for (int h = 0; h < houseCount; h++) {
                 if ((used >> h & 1) == 0) {
-                    Walk next = walks[depth + 1];
-                    next.follow(walks[depth]);
-                    int reached = next.visit(doors[h], terms);
-                    trial[depth] = h;
-                    grow(depth + 1, used | 1 << h, purse + worth(gifts, h, reached));
+                    goOn(depth, used, purse, h);
                 }
             }
+        }
+
+        private void goOn(int depth, int used, int purse, int house) {
+            Walk next = walks[depth + 1];
+            next.follow(walks[depth]);
+            int reached = next.visit(doors[house], terms);
+            trial[depth] = house;
+            grow(depth + 1, used | 1 << house, purse + worth(gifts, house, reached));
         }
 
         /** No order that begins so has a score above this; with all houses used it is the score. */
@@ -1222,11 +1226,11 @@ public final class PapersEarly {
             if (kind != NOT) {
                 return compared(open);
             }
-            if (open >= MOST_OPEN) {
-                return false;
-            }
-            advance();
-            return negated(open + 1) && emit(NOT);
+            return open < MOST_OPEN && passed(NOT) && behindNot(open + 1);
+        }
+
+        private boolean behindNot(int open) {
+            return negated(open) && emit(NOT);
         }
 
         private boolean compared(int open) {
@@ -1273,9 +1277,13 @@ public final class PapersEarly {
                 return false;
             }
             if (passed('-')) {
-                return one(open + 1) && emit(NEGATE);
+                return behindMinus(open + 1);
             }
             return passed('(') && either(open + 1) && passed(')');
+        }
+
+        private boolean behindMinus(int open) {
+            return one(open) && emit(NEGATE);
         }
 
         private boolean emit(int step) {
